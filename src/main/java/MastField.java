@@ -128,7 +128,7 @@ public final class MastField {
     }
 
     public int field(int m, int c) {
-        return isMast(m) && ground.has(c) ? fieldIn(masts[m], c) : NO_FIELD;
+        return isMast(m) && ground.has(c) ? fieldOf(masts[m], masts[m].reach, c) : NO_FIELD;
     }
 
     public int feed(int a, int b, int c, int d, int e) {
@@ -377,11 +377,8 @@ public final class MastField {
 
     // ---- fields ----
 
-    private int fieldIn(Mast it, int cell) {
-        return fieldByReach(it, cell, it.reach);
-    }
-
-    private int fieldByReach(Mast it, int cell, int reach) {
+    /** The field of a mast in a cell, with its own reach or another. */
+    private int fieldOf(Mast it, int reach, int cell) {
         if (!it.awake) {
             return NO_FIELD;
         }
@@ -396,7 +393,7 @@ public final class MastField {
         int greatest = bar - 1;
         for (int m = 0; m < mastCount; m++) {
             if (isIn(set, m)) {
-                int field = fieldIn(masts[m], cell);
+                int field = fieldOf(masts[m], masts[m].reach, cell);
                 if (field > greatest) {
                     strongest = m;
                     greatest = field;
@@ -410,7 +407,7 @@ public final class MastField {
     private int heardIn(int cell, int set) {
         int heard = 0;
         for (int m = 0; m < mastCount; m++) {
-            if (isIn(set, m) && fieldIn(masts[m], cell) >= law.numbers[LEAST_FIELD]) {
+            if (isIn(set, m) && fieldOf(masts[m], masts[m].reach, cell) >= law.numbers[LEAST_FIELD]) {
                 heard |= 1 << m;
             }
         }
@@ -466,7 +463,7 @@ public final class MastField {
         if (now >= it.oldTill) {
             freeOldPlace(it);
         }
-        int own = fieldIn(masts[it.mast], it.cell);
+        int own = fieldOf(masts[it.mast], masts[it.mast].reach, it.cell);
         if (own < law.numbers[LEAST_FIELD]) {
             dropCall(it);
             return;
@@ -478,14 +475,13 @@ public final class MastField {
     private void dropCall(Caller it) {
         int neighbours = masts[it.mast].neighbours;
         endCall(it);
-        it.cause = causeIn(it.cell, neighbours);
+        // The lost mast itself is not heard: its field is below the least one.
+        int heard = heardIn(it.cell, ALL_MASTS);
+        it.cause = causeOf(heard, heard & freeMasts(), neighbours);
         tally[DROPPED_BY + it.cause]++;
     }
 
-    /** The lost mast itself is never heard here: its field is below the least one. */
-    private int causeIn(int cell, int neighbours) {
-        int heard = heardIn(cell, ALL_MASTS);
-        int free = heard & freeMasts();
+    private static int causeOf(int heard, int free, int neighbours) {
         if (heard == 0) {
             return 1;
         }
@@ -526,7 +522,7 @@ public final class MastField {
     private void makeReport(Caller it) {
         Mast own = masts[it.mast];
         int strangers = ~(own.neighbours | 1 << it.mast);
-        int bar = fieldIn(own, it.cell) + law.numbers[BAR];
+        int bar = fieldOf(own, own.reach, it.cell) + law.numbers[BAR];
         int heard = strongestIn(it.cell, strangers, bar);
         if (heard == NONE) {
             return;
@@ -564,7 +560,7 @@ public final class MastField {
     private int reachBits(int cell, int chosen) {
         int bits = 0;
         for (int bit = 0; bit < REACHES_EACH * chosen; bit++) {
-            int field = fieldByReach(masts[bit / REACHES_EACH], cell, reachOf(bit % REACHES_EACH));
+            int field = fieldOf(masts[bit / REACHES_EACH], reachOf(bit % REACHES_EACH), cell);
             if (field >= law.numbers[LEAST_FIELD]) {
                 bits |= 1 << bit;
             }
@@ -649,22 +645,24 @@ public final class MastField {
             return Math.max(Math.abs(columnOf[to] - columnOf[from]), Math.abs(rowOf[to] - rowOf[from]));
         }
 
+        /**
+         * Columns and rows are kept in parts of twice the steps. None is below 0, so that the division rounds
+         * down and, with the half that is added at first, to the nearest, halves up.
+         */
         private int shadesOnTheWay(int from, int to, int steps) {
+            if (steps < 1) {
+                return 0;
+            }
+            int parts = 2 * steps;
+            int column = parts * columnOf[from] + steps;
+            int row = parts * rowOf[from] + steps;
             int sum = 0;
             for (int k = 1; k <= steps; k++) {
-                int column = partOfTheWay(columnOf[from], columnOf[to], k, steps);
-                int row = partOfTheWay(rowOf[from], rowOf[to], k, steps);
-                sum += shades[columns * row + column];
+                column += 2 * (columnOf[to] - columnOf[from]);
+                row += 2 * (rowOf[to] - rowOf[from]);
+                sum += shades[columns * (row / parts) + column / parts];
             }
             return sum;
-        }
-
-        /** No part of it is below 0, so that the division rounds down and, with the half, halves up. */
-        private static int partOfTheWay(int from, int to, int k, int steps) {
-            if (steps < 1) {
-                return from;
-            }
-            return (2 * (from * (steps - k) + to * k) + steps) / (2 * steps);
         }
     }
 

@@ -12,12 +12,16 @@ public final class CallTest {
         tickNumbers();
         waitFollowsTheTarget();
         targetOfLikeOnes();
+        barToTheNumber();
+        leastToTheNumber();
+        waitEndsWithTheCall();
         heldUp();
         twoPlaces();
         twoPlacesAtOneMast();
         noSecondPlace();
         backWithin();
         backOnlyFromTheLast();
+        backOfThisCallOnly();
         causes();
         dropFreesTheOldPlaceFirst();
         asleepKeepsItsCalls();
@@ -211,6 +215,54 @@ public final class CallTest {
         DUE.is("15 at the bar, the lowest", x.look(0, 1), 1);
     }
 
+    private static void barToTheNumber() {
+        for (int more = 0; more <= 12; more++) {
+            MastField x = new MastField();
+            Due.tell(x, "t9;n9;h6");
+            x.mast(0, 50, 10, 1);
+            x.mast(0, 50 + more, 10, 0);
+            x.caller(0);
+            x.call(0);
+            x.tick();
+            DUE.is("18 a report of one with " + more + " more", x.reports(0, 1), more >= 6 ? 1 : 0);
+            x.neighbour(0, 1, true);
+            x.tick();
+            DUE.is("15 a target with " + more + " more", x.look(0, 3), more >= 6 ? 1 : 0);
+        }
+    }
+
+    private static void leastToTheNumber() {
+        MastField x = new MastField();
+        x.mast(0, 23, 10, 1);
+        x.caller(0);
+        x.call(0);
+        x.move(0, 1);
+        x.tick();
+        DUE.is("15 a field of m keeps its call", x.look(0, 1), 0);
+        x.move(0, 2);
+        x.tick();
+        DUE.is("15 a field below drops it", x.look(0, 1), -1);
+    }
+
+    private static void waitEndsWithTheCall() {
+        MastField x = twoMasts("t9", 1, 0);
+        x.caller(0);
+        x.call(0);
+        x.move(0, 9);
+        ticks(x, 3);
+        x.hang(0);
+        DUE.is("16 wait after a call that hung up", x.look(0, 3), 0);
+        x.move(0, 0);
+        x.call(0);
+        x.move(0, 9);
+        DUE.is("16 wait before the first tick of a call", x.look(0, 3), 0);
+        ticks(x, 3);
+        DUE.is("15 wait counts from the call on", x.look(0, 3), 3);
+        x.wake(0, false);
+        x.tick();
+        DUE.is("16 wait after a call that was dropped", x.look(0, 3), 0);
+    }
+
     private static void heldUp() {
         MastField x = twoMasts("t2;d0", 1, 0);
         x.caller(0);
@@ -327,6 +379,24 @@ public final class CallTest {
         x.tick();
         DUE.is("15 handed over", x.count(7), 4);
         DUE.is("15 of this call only", x.count(8), 0);
+    }
+
+    private static void backOfThisCallOnly() {
+        MastField x = twoMasts("t1;d0", 1, 1);
+        x.caller(0);
+        x.call(0);
+        x.move(0, 9);
+        x.tick();
+        DUE.is("15 from 0 to 1", x.look(0, 1), 1);
+        x.hang(0);
+        DUE.is("15 a new call", x.call(0), 1);
+        x.move(0, 0);
+        x.tick();
+        DUE.is("15 from 1 to 0", x.look(0, 1), 0);
+        DUE.is("15 the hand-over to 1 was another call's", x.count(8), 0);
+        x.move(0, 9);
+        x.tick();
+        DUE.is("15 this one is back", x.count(8), 1);
     }
 
     private static void causes() {

@@ -6,8 +6,11 @@ import java.lang.reflect.Method;
 import java.lang.reflect.Modifier;
 import java.nio.file.Files;
 import java.nio.file.Path;
+import java.util.ArrayList;
 import java.util.List;
+import java.util.Map;
 import java.util.Set;
+import java.util.TreeMap;
 import java.util.TreeSet;
 import java.util.regex.Matcher;
 import java.util.regex.Pattern;
@@ -30,6 +33,7 @@ public final class FaceTest {
         classes();
         words();
         lengths();
+        depth();
         DUE.end();
     }
 
@@ -81,7 +85,7 @@ public final class FaceTest {
     }
 
     private static List<Class<?>> allClasses() {
-        List<Class<?>> all = new java.util.ArrayList<>(List.of(MastField.class.getDeclaredClasses()));
+        List<Class<?>> all = new ArrayList<>(List.of(MastField.class.getDeclaredClasses()));
         all.add(MastField.class);
         return all;
     }
@@ -133,21 +137,45 @@ public final class FaceTest {
         }
     }
 
-    /** From a method's head to the brace that closes it at the same depth. */
     private static void lengths() throws IOException {
-        int start = -1;
-        String end = "";
-        List<String> lines = Files.readAllLines(SOURCE);
-        for (int i = 0; i < lines.size(); i++) {
-            String line = lines.get(i);
-            DUE.yes("a line of at most 120: " + (i + 1), line.length() <= 120);
-            if (start < 0 && line.matches("( {4}| {8})(public|private) [^=;]*\\([^;]*")) {
-                start = i;
-                end = line.replaceAll("\\S.*", "") + "}";
-            } else if (start >= 0 && line.equals(end)) {
-                DUE.yes("at most sixty lines: " + lines.get(start).trim(), i - start < 60);
-                start = -1;
+        for (String line : Files.readAllLines(SOURCE)) {
+            DUE.yes("a line of at most 120: " + line, line.length() <= 120);
+        }
+        bodies().forEach((name, body) -> DUE.yes("at most sixty lines: " + name, body.split("\n").length <= 60));
+    }
+
+    /** The methods by name: from the head to the brace that closes it at the same depth. */
+    private static Map<String, String> bodies() throws IOException {
+        Map<String, String> bodies = new TreeMap<>();
+        Matcher methods = Pattern.compile("(?ms)^( {4}| {8})(?:public|private)[^=;(]*?(\\w+)\\([^;{]*\\{\n(.*?)^\\1\\}")
+            .matcher(code());
+        while (methods.find()) {
+            DUE.yes("one method of a name: " + methods.group(2), bodies.put(methods.group(2), methods.group(3)) == null);
+        }
+        DUE.yes("the methods of the face are found", bodies.size() > METHODS.size());
+        return bodies;
+    }
+
+    /** Calls go at most eight deep, the library's counted, and none comes back to itself. */
+    private static void depth() throws IOException {
+        Map<String, String> bodies = bodies();
+        for (String name : bodies.keySet()) {
+            int deep = depthOf(name, bodies, 1);
+            DUE.yes(name + " goes " + deep + " deep", deep <= 8);
+        }
+    }
+
+    private static int depthOf(String name, Map<String, String> bodies, int level) {
+        int deepest = level;
+        if (level > 20 || !bodies.containsKey(name)) {
+            return level;
+        }
+        Matcher calls = Pattern.compile("\\b(\\w+)\\(").matcher(bodies.get(name));
+        while (calls.find()) {
+            if (!Set.of("if", "for", "while", "switch", "return").contains(calls.group(1))) {
+                deepest = Math.max(deepest, depthOf(calls.group(1), bodies, level + 1));
             }
         }
+        return deepest;
     }
 }

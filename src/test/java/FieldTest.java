@@ -6,6 +6,7 @@ public final class FieldTest {
         newObject();
         map();
         mapStartsAnew();
+        mapForgetsReportsAndCauses();
         shade();
         mast();
         reach();
@@ -89,6 +90,29 @@ public final class FieldTest {
         DUE.is("2 anew, caller", x.caller(0), 0);
         DUE.is("2 anew, look(0, 1)", x.look(0, 1), -1);
         DUE.is("2 anew, look(0, 5)", x.look(0, 5), 0);
+    }
+
+    private static void mapForgetsReportsAndCauses() {
+        MastField x = new MastField();
+        x.mast(0, 50, 10, 1);
+        x.mast(0, 60, 10, 0);
+        x.caller(0);
+        x.call(0);
+        x.tick();
+        DUE.is("2 reports", x.reports(0, 1), 1);
+        x.wake(0, false);
+        x.tick();
+        DUE.is("2 dropped", x.look(0, 5), 2);
+        x.map(8, 8);
+        x.mast(0, 50, 10, 1);
+        x.mast(0, 60, 10, 0);
+        x.caller(0);
+        DUE.is("2 anew, reports", x.reports(0, 1), 0);
+        DUE.is("2 anew, about(0, 5)", x.about(0, 5), 1);
+        DUE.is("2 anew, look(0, 5)", x.look(0, 5), 0);
+        DUE.is("2 anew, call", x.call(0), 0);
+        DUE.is("2 anew, tick", x.tick(), 1);
+        DUE.is("2 anew, reports", x.reports(0, 1), 1);
     }
 
     private static void shade() {

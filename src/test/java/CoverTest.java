@@ -10,6 +10,7 @@ public final class CoverTest {
         sleep();
         sleepWithoutSpots();
         sleepOfLikeOnes();
+        sleepWithAllSpots();
         best();
         bestOfTheFirstFour();
         bestOfLikeRows();
@@ -97,6 +98,30 @@ public final class CoverTest {
         DUE.is("21 none to spare", x.sleep(), 0);
         x.mast(0, 20, 10, 1);
         DUE.is("21 of like ones the least", x.sleep(), 1);
+    }
+
+    /** Twenty spots, the last of which alone needs the second mast. */
+    private static void sleepWithAllSpots() {
+        MastField x = new MastField();
+        x.map(10, 10);
+        x.mast(0, 200, 10, 1);
+        x.mast(99, 20, 0, 1);
+        for (int i = 0; i < 19; i++) {
+            x.spot(i);
+        }
+        x.shade(99, 20);
+        Due.tell(x, "m20");
+        DUE.is("21 nineteen spots", x.sleep(), 2);
+        x.reach(0, 0);
+        x.shade(88, 20);
+        x.shade(77, 20);
+        x.shade(66, 20);
+        x.shade(55, 20);
+        x.shade(44, 20);
+        DUE.is("21 the far corner's field of the first mast", x.field(0, 99), 200 - 27 - 36 - 120);
+        x.spot(99);
+        DUE.is("21 count(14)", x.count(14), 20);
+        DUE.is("21 the twentieth spot counts", x.sleep(), 0);
     }
 
     private static void best() {

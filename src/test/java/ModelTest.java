@@ -43,6 +43,10 @@ public final class ModelTest {
             }
         }
         wholeState();
+        same("sleep", x.sleep(), y.sleep());
+        for (int i = -2; i < 6; i++) {
+            same("best " + i, x.best(i), y.best(i));
+        }
         for (int what = 6; what <= 17; what++) {
             HAPPENED[what] += x.count(what);
         }
@@ -54,11 +58,16 @@ public final class ModelTest {
             int h = 2 + random.nextInt(9);
             same("map", x.map(w, h), y.map(w, h));
         }
-        for (int i = random.nextInt(7); i > 0; i--) {
+        // Now and then as much as there can be, and more.
+        boolean full = run % 5 == 0;
+        for (int i = full ? 10 : random.nextInt(7); i > 0; i--) {
             mast();
         }
-        for (int i = random.nextInt(12); i > 0; i--) {
+        for (int i = full ? 24 : random.nextInt(12); i > 0; i--) {
             caller();
+        }
+        for (int i = full ? 60 : 0; i > 0; i--) {
+            spot();
         }
         for (int i = random.nextInt(20); i > 0; i--) {
             shade();
@@ -111,6 +120,11 @@ public final class ModelTest {
     private void caller() {
         int c = cell();
         same("caller", x.caller(c), y.caller(c));
+    }
+
+    private void spot() {
+        int c = cell();
+        same("spot", x.spot(c), y.spot(c));
     }
 
     private void shade() {
@@ -191,7 +205,7 @@ public final class ModelTest {
             int reach = pick(0, 10);
             same("reach", x.reach(m, reach), y.reach(m, reach));
         } else if (what < 83) {
-            same("spot", x.spot(c), y.spot(c));
+            spot();
         } else if (what == 83 && random.nextInt(12) == 0) {
             int w = pick(2, 10);
             int h = pick(2, 10);

@@ -302,7 +302,7 @@ public final class MastField {
             last *= a;
             sum = sum * b * i + last;
         }
-        return (int) (last * MILLION / sum);
+        return sum > 0 ? (int) (last * MILLION / sum) : NONE;
     }
 
     public int count(int what) {
@@ -660,7 +660,8 @@ public final class MastField {
             for (int k = 1; k <= steps; k++) {
                 column += 2 * (columnOf[to] - columnOf[from]);
                 row += 2 * (rowOf[to] - rowOf[from]);
-                sum += shades[columns * (row / parts) + column / parts];
+                int cell = columns * (row / parts) + column / parts;
+                sum += has(cell) ? shades[cell] : 0;
             }
             return sum;
         }

@@ -40,10 +40,15 @@ final class Due {
 
     /** Feeds a text (60 bytes at most) and makes its bytes the rules. */
     static int tell(MastField x, String text) {
+        feed(x, text);
+        return x.rules(text.length());
+    }
+
+    /** Feeds a text, with bytes of 0 behind it up to the next twenty. */
+    static void feed(MastField x, String text) {
         for (int at = 0; at == 0 || at < text.length(); at += 20) {
             x.feed(word(text, at), word(text, at + 4), word(text, at + 8), word(text, at + 12), word(text, at + 16));
         }
-        return x.rules(text.length());
     }
 
     private static int word(String text, int at) {

@@ -164,6 +164,10 @@ final class ReportEdges {
         x.wake(1, false);
         x.tick();
         s.is("of one asleep they stay", x.reports(0, 1), 1);
+        x.neighbour(0, 1, true);
+        s.is("of one that is told they stay", x.reports(0, 1), 1);
+        x.neighbour(0, 1, false);
+        s.is("and when it is told no more", x.reports(0, 1), 1);
     }
 
     private void reportsRefuse() {

@@ -301,7 +301,7 @@ final class RulesEdges {
     /** Of a text with a fault at its end nothing counts, though all its clauses have been read. */
     private void faultsChangeNoTick() {
         s.says(9, "(they stay);");
-        String low = "h0;t1;m15;d1;w1;n1";
+        String low = "h0;t1;m15;d0;w1;n1";
         String high = "h50;t9;m100;d9;w99;n99";
         String first = "h6;t2;m20;d1;w10;n3";
         String[][] pairs = {{low, high}, {high, low}, {first, low}, {first, high}, {low, first}, {high, first}};

@@ -90,6 +90,14 @@ final class TickEdges {
             s.is("not freed twice", x.about(0, 4), 0);
             s.is("the new one stays", x.about(1, 4), 1);
         }
+        MastField x = Worlds.pair("t1;d3", 1, 1);
+        Worlds.inCall(x, 0, 9);
+        x.tick();
+        x.wake(0, false);
+        Worlds.ticks(x, 2);
+        s.is("at a mast asleep it is held as long", x.look(0, 2), 0);
+        x.tick();
+        s.is("and free then", x.about(0, 4), 0);
     }
 
     private void belowLeast() {
